@@ -163,6 +163,12 @@ public final class ActTest {
             Due.is("thread", x.button(0, 1), thread);
         }
         Due.is("storm 0", stormsOnce(0, 0), 0);
+        // 17 * 137 + 71 = 2400: the rest is 0, which storms by storm 1 only.
+        Due.is("storm 1", stormsOnce(1, 17), 1);
+        Due.is("storm 0", stormsOnce(0, 17), 0);
+        OathButtons untold = Due.of(MEN + "button p on a by b does x;wear storm;draw 17;");
+        untold.day();
+        Due.is("storm not told", untold.button(0, 1), 10);
         Due.is("storm 71 by the rest 71", stormsOnce(71, 0), 0);
         Due.is("storm 72 by the rest 71", stormsOnce(72, 0), 1);
         Due.is("storm 100", stormsOnce(100, 4), 1);
@@ -280,5 +286,32 @@ public final class ActTest {
         Due.is("back(1) again", x.back(1), 1);
         x.image(2);
         Due.is("a box filled anew", x.back(2), 1);
+        Due.is("image(0)", x.image(0), 1);
+        x.day();
+        Due.is("back(0)", x.back(0), 1);
+        Due.is("back(3)", x.back(3), -1);
+        tenButtons();
+    }
+
+    private static void tenButtons() {
+        StringBuilder text = new StringBuilder(MEN);
+        for (int i = 0; i < 10; i++) {
+            text.append("button ").append((char) ('a' + i)).append(" on a by b does x thread ").append(20 + i).append(";");
+        }
+        OathButtons x = Due.of(text.append("draw 123;").toString());
+        x.cut(9);
+        x.day();
+        x.image(0);
+        x.day();
+        x.undo();
+        x.sew(8);
+        x.back(0);
+        Due.is("day", x.about(4), 1);
+        Due.is("seed", x.about(5), (123 * 137 + 71) % 1000);
+        Due.is("cut", x.about(6), 1);
+        for (int i = 0; i < 10; i++) {
+            Due.is("thread of " + i, x.button(i, 1), i < 9 ? 19 + i : 29);
+            Due.is("state of " + i, x.button(i, 0), i < 9 ? 0 : 2);
+        }
     }
 }

@@ -105,6 +105,8 @@ public final class KeepTest {
         // Now one can be kept, later none, still later one again.
         Due.is("not by steps", Due.of(MEN + "deed x hours 1;deed y hours 1;button p on a by b does x until 2;"
             + "button q on a by b does y until 20;button r on a by b never y until 10;").rest(0), 20);
+        Due.is("no day", Due.of(MEN + "day 6;deed x hours 12;button p on a by b does x until 1;").rest(0), 0);
+        Due.is("one day", Due.of(MEN + "day 6;deed x hours 12;button p on a by b does x until 2;").rest(0), 1);
         Due.is("rest(3)", x.rest(3), -1);
         Due.is("rest(-1)", x.rest(-1), -1);
         x.truce();
@@ -130,6 +132,18 @@ public final class KeepTest {
         // Together by way of a deed that none of them promises.
         clash("by delay", Due.of(MEN + "day 4;deed x hours 2;deed w hours 8;button p on a by b does x;"
             + "button q on a by c never x until 1;"), -1, -1);
+        clash("in one order only", Due.of(MEN + "deed x hours 16;deed y hours 8;button p on a by b does x until 1;"
+            + "button q on a by b does y;"), -1, -1);
+        clash("in the other order only", Due.of(MEN + "deed y hours 8;deed x hours 16;button p on a by b does x until 1;"
+            + "button q on a by b does y;"), -1, -1);
+        String six = MEN + "deed a hours 24;deed b hours 24;deed c hours 24;deed d hours 24;deed e hours 24;deed f hours 24;day 24;"
+            + "button a on a by b does a until 5;button b on a by b does b until 4;button c on a by b does c until 3;"
+            + "button d on a by b does d until 2;button e on a by b does e until 1;";
+        clash("six", Due.of(six + "button f on a by b does f;"), -1, -1);
+        clash("six, ten buttons", Due.of(six + "button f on a by b does f;button g on a by b does f;button h on a by b does f;"
+            + "button i on a by b does f;button j on a by b does f;"), -1, -1);
+        clash("six, one day less", Due.of(six.replace("until 5", "until 4") + "button f on a by b does f until 4;button g on a by b does f;button h on a by b does f;"
+            + "button i on a by b does f;button j on a by b does f until 4;"), 6, 63);
         OathButtons x = Due.of(two);
         x.cut(0);
         clash("what is off does not count", x, -1, -1);
@@ -162,6 +176,7 @@ public final class KeepTest {
         Due.is("leave(1, 0)", x.leave(1, 0), 0);
         Due.lies(x, "leave(1, 0)");
         Due.is("asked(1, 0)", x.asked(1, 0), 0);
+        tenButtons();
         // What is off ends the row behind it, too.
         x.cut(1);
         Due.is("leave(0, 0)", x.leave(0, 0), 2);
@@ -201,5 +216,18 @@ public final class KeepTest {
         Due.is("clash(0, -1)", x.clash(0, -1), -1);
         Due.is("clash(0, 0)", x.clash(0, 0), 1);
         Due.is("no act", x.about(8), 0);
+    }
+
+    private static void tenButtons() {
+        StringBuilder text = new StringBuilder(MEN + "deed x hours 1;");
+        for (int i = 0; i < 10; i++) {
+            text.append("button ").append((char) ('a' + i)).append(" on a by b never x;");
+        }
+        OathButtons x = Due.of(text.toString());
+        Due.is("leave(0, 0)", x.leave(0, 0), 10);
+        Due.lies(x, "leave(0, 0)", 0, 1, 2, 3, 4, 5, 6, 7, 8, 9);
+        Due.is("asked(0, 0)", x.asked(0, 0), 2);
+        Due.is("ties(0, 1)", x.ties(0, 1), 1023);
+        Due.is("coat(0, 0)", x.coat(0, 0), 1023);
     }
 }

@@ -14,6 +14,8 @@ public final class TextTest {
         numbersOnce();
         formulas();
         tooMany();
+        whatIsCutOffTheTape();
+        lessBehindMore();
         Due.endTest();
     }
 
@@ -145,6 +147,7 @@ public final class TextTest {
         fault("day 12345;", 1, 4);
         fault("draw 00001;", 1, 5);
         fault("day 8a;", 1, 4);
+        fault("day 8z;", 1, 4);
         fault("wear 1or 2;", 1, 5);
         right("wear 1 or 2;", 0);
         right("wear(thread)or(1)or 2;", 0);
@@ -161,6 +164,9 @@ public final class TextTest {
         x.untell(1);
         x.tug(2, 1, true);
         Due.is("left", x.swore(0), 24);
+        x.untell(2);
+        x.tug(0, 0, true);
+        Due.is("colour 0", x.swore(0), 29);
         // Each sort has names by itself.
         right("man a;man b;deed a hours 1;button a on a by b does a;", 1);
         fault("man", 2, 3);
@@ -334,6 +340,9 @@ public final class TextTest {
         fault(friends + "friend a b 1;", 2, friends.length());
         String thirty = "wear " + "1+".repeat(29) + "1";
         units(thirty + ";", 30);
+        for (String sign : new String[] {"-", "*", "/", "%", " or ", " and "}) {
+            units("wear " + ("1 " + sign).repeat(29) + "1;", 30);
+        }
         fault(thirty + "+1;", 2, thirty.length() + 1);
         fault(thirty + "+(1);", 2, thirty.length() + 1);
         fault(thirty + "+#", 1, thirty.length() + 1);
@@ -342,5 +351,67 @@ public final class TextTest {
         fault(bracket, 2, bracket.length() - 3);
         String nots = "wear " + "not not not not not not not 1 and ".repeat(29) + "not not not not not not not 1;";
         Due.is("holds by many nots", Due.of("man m;man n;deed d hours 1;button b on m by n does d;" + nots).holds(0, 3, 0), 10);
+    }
+
+    /** Bytes that end() took off the tape are no part of the text, though they were there. */
+    private static void whatIsCutOffTheTape() {
+        String[][] cut = {{"man a", " "}, {"man a", "b"}, {"day 1", "2"}, {"day 1", "a"}, {"man a", ";"}, {"wear 1", ";"}};
+        for (String[] two : cut) {
+            OathButtons x = new OathButtons();
+            Due.feed(x, two[0] + two[1]);
+            x.end(two[0].length());
+            Due.is("regiment() of '" + two[0] + "', cut", x.regiment(), -1);
+            Due.is("fault(0) of '" + two[0] + "', cut", x.fault(0), 2);
+            Due.is("fault(1) of '" + two[0] + "', cut", x.fault(1), two[0].length());
+        }
+    }
+
+    /** A small regiment behind a great one has nothing of it. */
+    private static void lessBehindMore() {
+        StringBuilder great = new StringBuilder("man a colour 1 holes 1 left;man b left;man c left;man d left;man e left;man f left;");
+        great.append("deed a hours 9;deed b hours 9;deed c hours 9;deed d hours 9;deed e hours 9;deed f hours 9;");
+        for (char name = 'a'; name < 'k'; name++) {
+            great.append("button ").append(name).append(" on a by b ");
+            great.append(name % 2 == 0 ? "does " : "never ").append(name < 'g' ? name : 'b');
+            great.append(" until 1 thread 9").append(name > 'a' ? " after a;" : ";");
+        }
+        great.append("friend a b 9;friend c d 9;wear 0 or 1 or 0 or 1 or 0;day 3;storm 100;draw 9;");
+        OathButtons x = right(great.toString(), 10);
+        x.keep(0, 0);
+        x.clash(0, 0);
+        x.tug(0, 7, true);
+        x.cut(9);
+        Due.feed(x, "man a;man b;deed x hours 8;deed y hours 8;button p on a by b does x;button q on a by b does y until 1;"
+            + "wear holes;");
+        Due.is("regiment()", x.regiment(), 2);
+        OathButtons y = right("man a;man b;deed x hours 8;deed y hours 8;button p on a by b does x;button q on a by b does y until 1;"
+            + "wear holes;", 2);
+        for (int a = -1; a < 11; a++) {
+            for (int b = -1; b < 8; b++) {
+                Due.is("button", x.button(a, b), y.button(a, b));
+                Due.is("coat", x.coat(a, b), y.coat(a, b));
+                Due.is("sworn", x.sworn(a, b), y.sworn(a, b));
+                Due.is("keep", x.keep(a, b), y.keep(a, b));
+                Due.is("ties", x.ties(a, b), y.ties(a, b));
+                Due.is("clash", x.clash(a, b), y.clash(a, b));
+                Due.is("leave", x.leave(a, b), y.leave(a, b));
+                Due.is("asked", x.asked(a, b), y.asked(a, b));
+                Due.is("holds", x.holds(a, b, 1), y.holds(a, b, 1));
+                Due.is("will", x.will(a, b), y.will(a, b));
+                Due.is("likes", x.likes(a, b), y.likes(a, b));
+            }
+            Due.is("many", x.many(a), y.many(a));
+            Due.is("rest", x.rest(a), y.rest(a));
+        }
+        Due.is("keep(0, 2)", x.keep(0, 2), 3);
+        Due.is("free()", x.free(), 2);
+        Due.is("truce()", x.truce(), 0);
+        Due.is("calm()", x.calm(), 1);
+        Due.is("untell(0)", x.untell(0), false);
+        Due.is("swore(0)", x.swore(0), 3);
+        x.tug(0, 0, true);
+        Due.is("swore(0)", x.swore(0), 3);
+        x.day();
+        Due.is("no storm", x.button(0, 1), 8);
     }
 }

@@ -61,6 +61,9 @@ public final class ThreadTest {
         value("10+3<5", 0);
         value("3<5+10", 1);
         value("5>3", 1);
+        value("3<3", 0);
+        value("4<3", 0);
+        value("3=4", 0);
         value("3>3", 0);
         value("3=3", 1);
         value("(3=4)+2", 2);

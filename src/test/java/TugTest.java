@@ -103,6 +103,11 @@ public final class TugTest {
         Due.is("ask(1, 1)", x.ask(1, 1), 2);
         x.later(1);
         x.tug(2, 1, true);
+        Due.is("only those who can be are counted", Due.of("man a;man b colour 1;man c colour 1;").ask(1, 0), 2);
+        OathButtons y = Due.of("man a;man b colour 1;man c colour 1 left;man d holes 1;man e holes 3;man f holes 4;");
+        y.tug(0, 1, false);
+        Due.is("a, d, e, f: ask(0, 0)", y.ask(0, 0), 1);
+        Due.is("a, d, e, f: ask(1, 0)", y.ask(1, 0), 1);
         Due.is("one is left: the first to ask", x.ask(0, 3), 0);
         Due.is("one is left", x.ask(1, 3), 1);
         x.later(1);
