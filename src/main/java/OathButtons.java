@@ -249,7 +249,8 @@ public final class OathButtons {
         if (!told.hasMan(man) || what < 0 || what > 2) {
             return NONE;
         }
-        orders.findBest(man, coats.today());
+        orders.lookAt(man);
+        orders.findBest(coats.today());
         orders.followBest();
         layOut(orders.order, orders.orderLength);
         if (what == 0) {
@@ -262,9 +263,11 @@ public final class OathButtons {
         if (!told.hasMan(man)) {
             return NONE;
         }
-        int now = orders.mostKept(man, coats.today());
+        orders.lookAt(man);
+        int now = orders.mostKept(coats.today());
         for (int days = AHEAD_MOST; days > 0; days--) {
-            if (orders.mostKept(man, coats.today() + days) >= now) {
+            // Where nothing can be kept, all is as much at least.
+            if (now == 0 || orders.mostKept(coats.today() + days) >= now) {
                 return days;
             }
         }
@@ -288,7 +291,8 @@ public final class OathButtons {
         if (!told.hasMan(man) || what < 0 || what > 1) {
             return NONE;
         }
-        int set = orders.smallestClash(man, coats.today());
+        orders.lookAt(man);
+        int set = orders.smallestClash(coats.today());
         if (set == NONE) {
             return NONE;
         }
@@ -1368,7 +1372,9 @@ public final class OathButtons {
 
         /** The thread of a button that is on behind one day more. */
         int worn(int button, int thread, int storm, int today) {
-            int loss = told.wear.amount(thread, told.holes[told.by[button]], storm, today);
+            int by = told.by[button];
+            int holes = told.hasMan(by) ? told.holes[by] : 0;
+            int loss = told.wear.amount(thread, holes, storm, today);
             return thread - Math.max(0, Math.min(loss, thread));
         }
 
@@ -1388,7 +1394,7 @@ public final class OathButtons {
             int bits = 0;
             // From the last on: what is to be undone ahead of a button is told ahead of it.
             for (int i = told.buttons - 1; i >= 0; i--) {
-                if (forbids(i, man, deed, today())) {
+                if (isOnMan(i, man) && told.deed[i] == deed && told.promises[i] == 0 && told.until[i] >= today()) {
                     bits |= 1 << i;
                 }
                 if ((bits & 1 << i) != 0 && waits(i)) {
@@ -1396,11 +1402,6 @@ public final class OathButtons {
                 }
             }
             return bits;
-        }
-
-        boolean forbids(int button, int man, int deed, int today) {
-            return isOnMan(button, man) && told.deed[button] == deed && told.promises[button] == 0
-                && told.until[button] >= today;
         }
     }
 
@@ -1490,9 +1491,12 @@ public final class OathButtons {
 
         private final Regiment told;
         private final Coats coats;
-        private int man;
+        /** The buttons on the man, by number. */
+        private final int[] mine = new int[BUTTONS_MOST];
+        private int mineCount;
         private int begin;
-        /** By the set of deeds that are done: the most that can still be won. */
+        /** By the set of deeds that are done: their hours, and the most that can still be won. */
+        private final int[] hoursOf = new int[DEED_SETS];
         private final int[] best = new int[DEED_SETS];
         private final byte[] keepable = new byte[BUTTON_SETS];
         final int[] order = new int[DEEDS_MOST];
@@ -1505,86 +1509,89 @@ public final class OathButtons {
             this.coats = coats;
         }
 
-        void findBest(int whose, int from) {
-            man = whose;
+        /** Sets down what all orders of a man have in common. */
+        void lookAt(int man) {
+            mineCount = 0;
+            for (int i = 0; i < told.buttons; i++) {
+                if (coats.isOnMan(i, man) && mineCount < BUTTONS_MOST) {
+                    mine[mineCount] = i;
+                    mineCount++;
+                }
+            }
+            hoursOf[0] = 0;
+            for (int deed = 0; deed < told.deeds; deed++) {
+                for (int set = 0; set < 1 << deed; set++) {
+                    hoursOf[set | 1 << deed] = hoursOf[set] + told.hours[deed];
+                }
+            }
+        }
+
+        /** The day of a deed hangs only on which deeds went before it, so sets of deeds are enough. */
+        void findBest(int from) {
             begin = from;
             for (int set = (1 << told.deeds) - 1; set >= 0; set--) {
-                int hours = hoursOf(set);
                 int most = 0;
                 for (int deed = 0; deed < told.deeds; deed++) {
                     if ((set & 1 << deed) == 0) {
-                        most = Math.max(most, wonBy(set, deed, hours));
+                        most = Math.max(most, wonBy(set, deed));
                     }
                 }
                 best[set] = most;
             }
         }
 
-        int mostKept(int whose, int from) {
-            findBest(whose, from);
+        int mostKept(int from) {
+            findBest(from);
             return (best[0] + BUTTON_WORTH - 1) / BUTTON_WORTH;
         }
 
-        private int hoursOf(int set) {
-            int hours = 0;
-            for (int deed = 0; deed < told.deeds; deed++) {
-                if ((set & 1 << deed) != 0) {
-                    hours += told.hours[deed];
-                }
-            }
-            return hours;
-        }
-
         /** What is won from here on if this deed is the next one; NONE if it can't be. */
-        private int wonBy(int set, int deed, int hours) {
-            int kept = keptBy(deed, hours + told.hours[deed]);
+        private int wonBy(int set, int deed) {
+            int behind = set | 1 << deed;
+            int kept = keptBy(deed, hoursOf[behind]);
             if (kept == NONE) {
                 return NONE;
             }
-            return Integer.bitCount(kept) * BUTTON_WORTH - told.hours[deed] + best[set | 1 << deed];
+            return Integer.bitCount(kept) * BUTTON_WORTH - told.hours[deed] + best[behind];
         }
 
         /** The buttons kept by a deed whose last hour is the given one; NONE if one forbids it. */
         private int keptBy(int deed, int lastHour) {
             int doneOn = begin + (told.hoursOfDay > 0 ? (lastHour - 1) / told.hoursOfDay : 0);
             int bits = 0;
-            for (int i = 0; i < told.buttons; i++) {
-                if (coats.forbids(i, man, deed, doneOn)) {
-                    return NONE;
-                }
-                if (isWanted(i) && told.deed[i] == deed && told.until[i] >= doneOn) {
-                    bits |= 1 << i;
+            for (int i = 0; i < mineCount; i++) {
+                int button = mine[i];
+                if (told.deed[button] == deed && told.until[button] >= doneOn) {
+                    if (told.promises[button] == 0) {
+                        return NONE;
+                    }
+                    bits |= 1 << button;
                 }
             }
             return bits;
-        }
-
-        private boolean isWanted(int button) {
-            return coats.isOnMan(button, man) && told.promises[button] == 1;
         }
 
         /** The first of the best orders, behind findBest. */
         void followBest() {
             orderLength = 0;
             keptBits = 0;
-            hoursTogether = 0;
             int set = 0;
             for (int i = 0; i < DEEDS_MOST && best[set] > 0; i++) {
                 int deed = firstBestDeed(set);
                 if (deed == NONE) {
-                    return;
+                    break;
                 }
-                hoursTogether += told.hours[deed];
-                keptBits |= keptBy(deed, hoursTogether);
+                set |= 1 << deed;
+                keptBits |= keptBy(deed, hoursOf[set]);
                 order[i] = deed;
                 orderLength++;
-                set |= 1 << deed;
             }
+            hoursTogether = hoursOf[set];
         }
 
         private int firstBestDeed(int set) {
             for (int deed = 0; deed < told.deeds; deed++) {
-                if ((set & 1 << deed) == 0 && wonBy(set, deed, hoursTogether) == best[set]) {
+                if ((set & 1 << deed) == 0 && wonBy(set, deed) == best[set]) {
                     return deed;
                 }
             }
@@ -1592,16 +1599,15 @@ public final class OathButtons {
         }
 
         /** The smallest set that no order keeps, as bits; NONE if all can be kept. */
-        int smallestClash(int whose, int from) {
-            man = whose;
+        int smallestClash(int from) {
             begin = from;
             markKeepable();
             int wanted = 0;
-            for (int i = 0; i < told.buttons; i++) {
-                wanted |= isWanted(i) ? 1 << i : 0;
+            for (int i = 0; i < mineCount; i++) {
+                wanted |= told.promises[mine[i]] == 1 ? 1 << mine[i] : 0;
             }
             int found = NONE;
-            for (int set = 1; set < BUTTON_SETS; set++) {
+            for (int set = 1; set < 1 << told.buttons; set++) {
                 if ((set & ~wanted) == 0 && keepable[set] == 0) {
                     if (found == NONE || Integer.bitCount(set) < Integer.bitCount(found)) {
                         found = set;
@@ -1612,27 +1618,27 @@ public final class OathButtons {
         }
 
         private void markKeepable() {
-            for (int set = 0; set < BUTTON_SETS; set++) {
+            for (int set = 0; set < 1 << told.buttons; set++) {
                 keepable[set] = 0;
             }
-            markOrders(0, 0, 0, 0);
+            markOrders(0, 0, 0);
             // A part of what is kept is kept: parts are smaller numbers, so one way down is enough.
-            for (int set = BUTTON_SETS - 1; set > 0; set--) {
-                for (int i = 0; i < BUTTONS_MOST && keepable[set] == 1; i++) {
+            for (int set = (1 << told.buttons) - 1; set > 0; set--) {
+                for (int i = 0; i < told.buttons && keepable[set] == 1; i++) {
                     keepable[set & ~(1 << i)] = 1;
                 }
             }
         }
 
-        private void markOrders(int depth, int set, int hours, int kept) {
+        private void markOrders(int depth, int set, int kept) {
             if (kept >= 0 && kept < BUTTON_SETS) {
                 keepable[kept] = 1;
             }
             for (int deed = 0; deed < told.deeds && depth < DEEDS_MOST; deed++) {
-                int lastHour = hours + told.hours[deed];
-                int more = (set & 1 << deed) == 0 ? keptBy(deed, lastHour) : NONE;
+                int behind = set | 1 << deed;
+                int more = behind != set ? keptBy(deed, hoursOf[behind]) : NONE;
                 if (more != NONE) {
-                    markOrders(depth + 1, set | 1 << deed, lastHour, kept | more);
+                    markOrders(depth + 1, behind, kept | more);
                 }
             }
         }
