@@ -4,15 +4,21 @@ import java.nio.charset.StandardCharsets;
 final class Due {
     private static int wrong;
     private static int asked;
+    private static String under = "";
 
     private Due() { }
+
+    /** What the answers that follow are about; told with each that is wrong. */
+    static void under(String what) {
+        under = what;
+    }
 
     static void is(String call, long got, long want) {
         asked++;
         if (got != want) {
             wrong++;
             if (wrong <= 50) {
-                System.out.println(call + " answered " + got + ", due is " + want);
+                System.out.println((under.isEmpty() ? "" : under + ": ") + call + " answered " + got + ", due is " + want);
             }
         }
     }
@@ -60,6 +66,43 @@ final class Due {
         }
         is(call + ": lies behind the last", x.lies(numbers.length), -2);
         is(call + ": lies(-1)", x.lies(-1), -2);
+    }
+
+    /** Numbers that are none of 0 .. count - 1: next to them, far off, and such as a shift would take for one of them. */
+    static int[] beyond(int count) {
+        int[] some = {count, count + 1, count + 32, -1, -2, -31, -32, -64, 256, 1 << 30, Integer.MAX_VALUE, Integer.MIN_VALUE,
+            Integer.MIN_VALUE + 1};
+        return some;
+    }
+
+    /** All that can be seen of how an object is, without a change. */
+    static String seen(OathButtons x) {
+        StringBuilder s = new StringBuilder();
+        for (int what = 0; what < 15; what++) {
+            s.append(x.about(what)).append(' ');
+        }
+        for (int i = 0; i < x.about(0); i++) {
+            s.append(x.button(i, 0)).append(':').append(x.button(i, 1)).append(' ');
+        }
+        for (int i = 0; i < x.about(14); i++) {
+            s.append(x.lies(i)).append(' ');
+        }
+        return s.append(x.fault(0)).append(' ').append(x.fault(1)).toString();
+    }
+
+    /** That nothing was done since the object was seen so. */
+    static void same(String call, OathButtons x, String before) {
+        String now = seen(x);
+        is(call + " did something: " + before + " became " + now, now.equals(before), true);
+    }
+
+    /** Puts a text on the tape of a new object: its fault, and where. */
+    static void fault(String text, int kind, int place) {
+        OathButtons x = new OathButtons();
+        feed(x, text);
+        is("regiment() of '" + text + "'", x.regiment(), -1);
+        is("fault(0) of '" + text + "'", x.fault(0), kind);
+        is("fault(1) of '" + text + "'", x.fault(1), place);
     }
 
     static void endTest() {
