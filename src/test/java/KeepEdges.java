@@ -271,6 +271,7 @@ final class KeepEdges {
         x.cut(1);
         clashes("one that is not ON", x, -1);
         x = told(three);
+        clashes("on DAY 0", x, 7);
         x.day();
         clashes("by the DAY that is now", x, 3);
         clashes("on another man", told(three.replace("q on a", "q on c")), -1);
@@ -363,6 +364,7 @@ final class KeepEdges {
         leaves("until is the DAY, the other is LOST", x, 0, 0, 6);
         x.sew(3);
         leaves("until is ahead of the DAY, though it is sewn anew", x, 0, 0, 6);
+        leaves("the first by itself", told("deed x hours 1;button a on b by a never x;"), 1, 0, 0);
         x = told("deed x hours 1;button a on b by a does x until 1 thread 2;button b on a by b never x after a;");
         x.day();
         x.day();

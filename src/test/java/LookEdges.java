@@ -136,6 +136,8 @@ final class LookEdges {
         Due.is("an UNDONE one is not ON", x.free(), 7);
         x.sew(3);
         Due.is("sewn anew", x.free(), 3);
+        x = Due.of(MEN + "button p on b by a does x;button q on c by a does x;");
+        Due.is("by the first BUTTON, and by the last", x.free(), 9);
         Due.is("six men with none", Due.of("man a;man b;man c;man d;man e;man f;").free(), 63);
         Due.is("of none at all", new OathButtons().free(), 0);
     }

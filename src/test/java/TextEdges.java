@@ -144,6 +144,7 @@ final class TextEdges {
         Due.is("an empty tape", x.regiment(), 0);
         Due.is("no men", x.about(1), 0);
         Due.is("hours of a day as at first", x.about(7), 8);
+        nothingOfTheEarlier();
         Doc.promise(4, "how many BUTTONS");
         StringBuilder text = new StringBuilder(TWO);
         for (int i = 0; i <= 10; i++) {
@@ -170,6 +171,61 @@ final class TextEdges {
         Due.is("redo() goes on", x.redo(), true);
         Due.is("the boxes stay", x.back(2), 1);
         Due.is("the wear stays", x.holds(1, 1, 0), 0);
+    }
+
+    /** What an object answers that has this regiment behind another one, by that of a new object. */
+    private static void nothingOfTheEarlier() {
+        String great = SIX.replace(";", " colour 7 holes 4 left;") + "deed p hours 9;deed q hours 9;deed r hours 9;deed s hours 9;deed t hours 1;"
+            + "button a on a by b does p until 1 thread 1;button b on a by b never q until 1 after a;button c on a by b does r until 1;"
+            + "button d on a by b does s;friend a b 9;friend c d 9;friend e f 9;wear (1 or 0)*thread+storm;day 3;storm 100;draw 9;";
+        String small = "man a;man b;man c;man d;deed x hours 8;deed y hours 8;deed z hours 8;"
+            + "button a on a by b does x until 1;button b on a by b does y until 1;button c on b by a never x;friend c d 0;";
+        for (String wear : new String[] {"", "wear storm;", "friend a c 1;wear holes;"}) {
+            for (String ahead : new String[] {"", great, great + "#"}) {
+                OathButtons x = Due.of(great);
+                x.cut(2);
+                x.day();
+                x.day();
+                x.sew(3);
+                x.truce();
+                x.calm();
+                x.keep(0, 0);
+                x.clash(0, 0);
+                x.tug(0, 7, true);
+                x.image(0);
+                x.undo();
+                Due.feed(x, ahead);
+                x.regiment();
+                Due.feed(x, small + wear);
+                Due.is("regiment()", x.regiment(), 3);
+                String seen = answers(x);
+                String due = answers(Due.of(small + wear));
+                Due.is(seen + " are due to be " + due, seen.equals(due), true);
+            }
+        }
+    }
+
+    private static String answers(OathButtons x) {
+        StringBuilder s = new StringBuilder(Due.seen(x));
+        for (int man = -1; man < 7; man++) {
+            s.append('\n').append(x.keep(man, 1)).append(' ').append(x.keep(man, 2)).append(' ').append(x.about(14)).append(' ');
+            s.append(x.rest(man)).append(' ').append(x.clash(man, 1)).append(' ');
+            s.append(x.leave(man, 0)).append(' ').append(x.asked(man, 0)).append(' ').append(x.coat(man, 0)).append(' ');
+            s.append(x.coat(man, 1)).append(' ').append(x.likes(man, 1)).append(' ').append(x.likes(man, 3));
+            s.append(' ').append(x.button(man, 0)).append(' ').append(x.button(man, 1)).append(' ').append(x.button(man, 7));
+            s.append(' ').append(x.holds(man, 3, 0)).append(' ').append(x.holds(man, 3, 1)).append(' ').append(x.odds(man, 2, 0));
+            s.append(' ').append(x.will(man, 1)).append(' ').append(x.will(man, 2)).append(' ').append(x.sworn(man, 0));
+        }
+        s.append('\n').append(x.truce()).append(' ').append(Due.seen(x)).append('\n').append(x.calm()).append(' ').append(Due.seen(x));
+        s.append('\n').append(x.free()).append(' ').append(x.first(0)).append(' ').append(x.ask(1, 9)).append(' ').append(x.swore(9));
+        for (int what = 0; what < 3; what++) {
+            s.append(' ').append(x.tug(what, 0, true)).append(' ').append(x.swore(9)).append(x.untell(what));
+        }
+        s.append(x.undo()).append(x.redo()).append(x.back(0));
+        for (int day = 0; day < 3; day++) {
+            s.append('\n').append(x.day()).append(' ').append(Due.seen(x));
+        }
+        return s.toString();
     }
 
     private static void fault() {
@@ -226,6 +282,8 @@ final class TextEdges {
         Due.is("all told", right(one + "button p on a by b never d until 1 thread 2 after o;").about(0), 2);
         Due.is("none told", right(one + "button p on b by a does d;").about(0), 2);
         Due.fault(TWO + "button o by b on a does d;", 2, 36);
+        Due.fault(TWO + "button o does d;", 2, 36);
+        Due.fault(TWO + "button o on a does d;", 2, 41);
         Due.fault(TWO + "button o on a by b d;", 2, 46);
         Due.fault(TWO + "button o on a by b does never d;", 2, 51);
         Due.fault(TWO + "button o on a by b does d thread 1 until 1;", 2, 62);
