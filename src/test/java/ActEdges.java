@@ -516,6 +516,7 @@ final class ActEdges {
             Due.is("back(" + box + ")", x.back(box), 1);
             Due.is("all is as it was: " + state(x), state(x).equals(then), true);
         }
+        tenKept();
         OathButtons x = Due.of(TEXT);
         for (int box = 0; box < 3; box++) {
             Due.is("image(" + box + ")", x.image(box), box);
@@ -533,6 +534,32 @@ final class ActEdges {
             Due.is("image(" + box + ")", x.image(box), -1);
             Due.same("image(" + box + ")", x, before);
         }
+    }
+
+    /** Each of ten has a state and a thread by itself, and none of them is the DAY, the SEED, or how many were CUT. */
+    private static void tenKept() {
+        StringBuilder text = new StringBuilder(MEN);
+        for (int i = 0; i < 10; i++) {
+            text.append("button ").append((char) ('a' + i)).append(" on a by b does x thread ").append(20 + i).append(';');
+        }
+        OathButtons x = Due.of(text + "draw 123;");
+        x.cut(9);
+        x.cut(0);
+        x.day();
+        String then = state(x);
+        StringBuilder due = new StringBuilder("2:20 ");
+        for (int i = 1; i < 9; i++) {
+            due.append("0:").append(19 + i).append(' ');
+        }
+        Due.is(then, then.contentEquals(due.append("2:29 1 922 2")), true);
+        x.image(0);
+        x.day();
+        x.does(0, 0);
+        x.back(0);
+        Due.is(state(x), state(x).equals(then), true);
+        x.day();
+        x.undo();
+        Due.is(state(x), state(x).equals(then), true);
     }
 
     private static void back() {

@@ -210,6 +210,7 @@ final class TextEdges {
         for (int man = -1; man < 7; man++) {
             s.append('\n').append(x.keep(man, 1)).append(' ').append(x.keep(man, 2)).append(' ').append(x.about(14)).append(' ');
             s.append(x.rest(man)).append(' ').append(x.clash(man, 1)).append(' ');
+            s.append(x.ties(man, 0)).append(' ').append(x.ties(man, 1)).append(' ').append(x.ties(man, 2)).append(' ');
             s.append(x.leave(man, 0)).append(' ').append(x.asked(man, 0)).append(' ').append(x.coat(man, 0)).append(' ');
             s.append(x.coat(man, 1)).append(' ').append(x.likes(man, 1)).append(' ').append(x.likes(man, 3));
             s.append(' ').append(x.button(man, 0)).append(' ').append(x.button(man, 1)).append(' ').append(x.button(man, 7));
