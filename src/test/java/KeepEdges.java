@@ -111,6 +111,13 @@ final class KeepEdges {
         String begun = "deed x hours 17;button p on a by b does x;button q on a by c never x until 1;";
         keeps("begun ahead, but not done", begun, 17, 1, 0);
         keeps("done in it", begun.replace("hours 17", "hours 16"), 0, 0);
+        // x can be done only behind w, which keeps nothing itself.
+        String between = "deed w hours 16;deed x hours 1;button p on a by b does x;button q on a by c never x until 1;"
+            + "button r on a by c never ";
+        keeps("a DEED that goes between, too", between + "w;", 0, 0);
+        keeps("on the DAY in which its last HOUR is", between + "w until 1;", 0, 0);
+        keeps("behind its until", between.replace("hours 16", "hours 17") + "w until 1;", 18, 1, 0, 1);
+        keeps("another one that goes between", "deed v hours 24;" + between + "w;", 25, 1, 0, 2);
         x = told("deed x hours 1;button p on a by b does x;button q on a by c never x until 1 thread 2;");
         x.day();
         x.day();
@@ -224,6 +231,10 @@ final class KeepEdges {
         Due.is("more are as many at least", told(never.replace("until 2;", "until 15;")).rest(0), 20);
         Due.is("another one is as good", told("deed x hours 1;deed y hours 1;button p on a by b does x until 2;"
             + "button q on a by b does x until 2;button r on a by b does y until 30;").rest(0), 2);
+        Due.is("as many, if by more HOURS", told("deed x hours 1;deed y hours 5;button p on a by b does x until 2;"
+            + "button q on a by b does y until 30;button r on a by b never y until 2;").rest(0), 30);
+        Due.is("as many, by one DEED for another", told("deed x hours 2;deed y hours 5;day 5;button p on a by b does x until 1;"
+            + "button q on a by b does y until 7;button r on a by b never y until 1;").rest(0), 7);
         // A thread that would not hold so long is as it is now.
         Due.is("as they are now: LOST by then", told("deed x hours 1;button p on a by b does x until 30 thread 1;").rest(0), 30);
         Due.is("as they are now: never, LOST by then", told("deed x hours 1;deed y hours 1;button p on a by b does x until 50;"
@@ -278,8 +289,20 @@ final class KeepEdges {
         clashes("those that never do are in no set", told(days + "button p on a by b never x;button q on a by b never y;"), -1);
         clashes("a DEED that none promises may go between", told("day 4;deed x hours 2;deed w hours 8;button p on a by b does x;"
             + "button q on a by c never x until 1;"), -1);
+        clashes("but none that he promises never to do", told("day 4;deed x hours 2;deed w hours 8;button p on a by b does x;"
+            + "button q on a by c never x until 1;button r on a by c never w until 1;"), 1);
         clashes("but not long enough", told("day 4;deed x hours 2;deed w hours 6;button p on a by b does x;"
             + "button q on a by c never x until 1;"), 1);
+        x = told("day 8;deed x hours 8;deed y hours 8;button p on b by c does x;button q on b by c does y;button r on b by c never x;"
+            + "button s on a by b does x until 1;button t on a by b does y until 1;button u on a by b does x until 1;");
+        clashes("all can be at first", x, -1);
+        x.day();
+        clashes("two of like late ones behind a DAY", x, 24);
+        x.undo();
+        clashes("all can be again", x, -1);
+        x.day();
+        Due.is("another MAN, asked between", x.clash(1, 1), 1);
+        clashes("and again not", x, 24);
         x = told("deed x hours 1;button p on a by b does x until 1 thread 2;");
         x.day();
         x.day();

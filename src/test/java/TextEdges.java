@@ -504,8 +504,16 @@ final class TextEdges {
             right(line);
             Due.fault(line + line, 2, line.length());
             Due.fault(line + "man a;" + line, 2, line.length() + 6);
+            for (String other : "wear day storm draw".split(" ")) {
+                String between = word.equals(other) ? "" : other + " 1;";
+                Due.fault(line + between + line, 2, line.length() + between.length());
+            }
         }
-        right("wear 1;day 1;storm 1;draw 1;");
+        String all = "wear 1;day 1;storm 1;draw 1;";
+        right(all);
+        for (String word : "wear day storm draw".split(" ")) {
+            Due.fault(all + word + " 1;", 2, all.length());
+        }
     }
 
     /** How many of ten days by all seeds' way storm. */
@@ -526,6 +534,12 @@ final class TextEdges {
         String thirty = "1" + "+1".repeat(29);
         Due.is("thirty", units(thirty), 30);
         Due.fault("wear " + thirty + "+1;", 2, 65);
+        for (String sign : new String[] {"+", "-", "*", "/", "%", " and ", " or "}) {
+            String joined = "1" + (sign + "1").repeat(29);
+            Due.is("thirty by " + sign, units(joined), 30);
+            Due.fault("wear " + joined + sign + "1;", 2, 5 + joined.length() + sign.length());
+            Due.fault("wear " + joined + sign + "not 1;", 2, 5 + joined.length() + sign.length() + (sign.length() > 2 ? 4 : 0));
+        }
         Due.is("a bracket is one, and what is in it", units("1" + "+1".repeat(27) + "+(1)"), 30);
         Due.fault("wear 1" + "+1".repeat(28) + "+(1);", 2, 64);
         Due.is("by and, or, not", units("not 1" + " and 1 or 1<1".repeat(9) + " or 1 and 1"), 30);
